@@ -293,6 +293,16 @@ public final class AccountsTest {
         SlicedBills w = filled(397);
         c.due("11 397 ENTRIES", w.move(0, 2) > NO, true);
         c.due("45 ENTRIES", w.count(0), 400);
+        SlicedBills u = filled(398);
+        c.due("6 398 ENTRIES", u.seats(0, 2) > NO, true);
+        c.due("45 ENTRIES", u.count(0), 400);
+        SlicedBills t = filled(398);
+        c.due("9 398 ENTRIES", t.pause(0, true) > NO, true);
+        c.due("45 ENTRIES", t.count(0), 400);
+        SlicedBills s = filled(396);
+        c.due("15 two accounts turn, 396 ENTRIES", s.days(31), 31);
+        c.due("45 ENTRIES", s.count(0), 400);
+        c.due("15 not once more", s.days(400), 28);
         SlicedBills v = filled(398);
         c.due("5 398 ENTRIES", v.change(0, 2) > NO, true);
         c.due("45 ENTRIES", v.count(0), 400);

@@ -60,8 +60,13 @@ public final class BookTest {
         c.due("3 nothing of the one before, FEE", x.billIs(7), 0);
         c.due("3 nothing of the one before, TAX", x.billIs(10), -2);
         c.due("3 a FAULT", Checks.book(x, "price A 7;fee 21"), -3014);
+        c.due("3 the one before stays", x.plan(0, 4), 0);
+        c.due("3 a BOOK behind a FAULT", Checks.book(x, "price A 2;fee 1;less 3 4;mode A whole;price A 2;price A 2"), 6);
         c.due("3 the one before stays", x.plan(0, 0), 2);
         c.due("3 the one before stays", x.count(3), 6);
+        c.due("3 a new one", Checks.book(x, "price B 1"), 1);
+        for (int w = 0; w < 8; w++) c.due("3 nothing of the one before, billIs(" + w + ")", x.billIs(w), 0);
+        for (int w = 0; w < 6; w++) c.due("3 nothing of the one before, plan(0, " + w + ")", x.plan(0, w), 0);
         x.begin(0, 0, 1);
         c.due("3 there are ENTRIES, ahead of FAULTS", Checks.book(x, "x"), -3);
         c.due("3 the tape is empty", x.count(2), 0);
@@ -71,7 +76,7 @@ public final class BookTest {
     private static void faults(Checks c) {
         String twenty = Checks.times(20, "fee 1");
         Object[][] all = {
-            {"prize A 1", -1000}, {"Price A 1", -1000}, {"pric", -1000}, {"pricee A 1", -1000}, {" price A 1", -1000}, {";", -1000},
+            {"prize A 1", -1000}, {"feez 1", -1000}, {"taxz 1", -1000}, {"Price A 1", -1000}, {"pric", -1000}, {"pricee A 1", -1000}, {" price A 1", -1000}, {";", -1000},
             {"\u00ff", -1000}, {"price", -1005}, {"price;", -1005}, {"price  A 1", -1006}, {"price a 1", -1006}, {"price G 1", -1006},
             {"price @ 1", -1006}, {"price ", -1006}, {"price A", -1007}, {"price AB 1", -1007}, {"price A ", -1008}, {"price A x", -1008},
             {"price A -1", -1008}, {"price A 1 ", -1009}, {"price A 1x", -1009}, {"price A 1;", -1010}, {"price A 1;;", -1010},
@@ -89,7 +94,9 @@ public final class BookTest {
             {"tier A 1 1;tier A 2 1;tier A 3 1;tier A 4 1;tier B 1 1", 5}, {"bulk A 2 1;bulk A 3 1;bulk A 4 1;bulk A 0", -6038},
             {"tax 0 1;tax 1 1;tax 2 1;tax 3 1;tax", -6032}, {"tax 0 1;tax 1 1;tax 2 1;tax 3 1;taxi", -1032},
             {"tax 0 1;tax 1 1;tax 2 1;tax 3 1", 4}, {twenty, 20}, {twenty + ";", -4120}, {twenty + ";x", -4120}, {twenty + ";fee 1", -4120},
-            {twenty + "x", -1119}, {"fee 1\u0000", -1005}, {"fee 1,fee 2", -1005}};
+            {twenty + "x", -1119}, {"price A 0;free A 0;rest A 0;pause A 0;less 0 0;fee 0;tier A 1 0;bulk A 2 0;tax 0 0", 9},
+            {"price A 99999;free A 9999;rest A 99;pause A 100;less 100 99;fee 20;tier A 9999 99;bulk A 9 100;tax 3652 100", 9},
+            {"fee 1\u0000", -1005}, {"fee 1,fee 2", -1005}};
         for (Object[] a : all) {
             SlicedBills x = new SlicedBills();
             c.due("3 book of " + a[0], Checks.book(x, (String) a[0]), (Integer) a[1]);
@@ -109,6 +116,9 @@ public final class BookTest {
             c.due("27 ADDING of " + d[0], x.usage(0, d[0]), d[1]);
             c.due("27 WHOLE of " + d[0], x.usage(1, d[0]), d[2]);
         }
+        SlicedBills y = Checks.with("tier A 4 1;rest A 7;mode A whole");
+        c.due("27 WHOLE at the last BOUND", y.usage(0, 4), 4);
+        c.due("27 WHOLE beyond it", y.usage(0, 5), 35);
         c.due("27 REST alone", x.usage(2, 9999), 989901);
         c.due("27 usage(0, -1)", x.usage(0, -1), -1);
         c.due("27 usage(0, 10000)", x.usage(0, 10000), -1);

@@ -7,6 +7,7 @@ public final class DeedsTest {
         Checks c = new Checks();
         faults(c);
         each(c);
+        zeros(c);
         refused(c);
         tape(c);
         tried(c);
@@ -68,6 +69,17 @@ public final class DeedsTest {
         }
     }
 
+    private static void zeros(Checks c) {
+        SlicedBills x = Checks.with("price B 5");
+        c.due("12 answers of 0 are no refusals", Checks.deeds(x, "begin 5 A 1;begin 0 B 1;use 5 0;days 15;remind 0;change 5 C;turn 0"), 7);
+        c.due("12 fewer STEPS than before", Checks.deeds(x, "days 1"), 1);
+        c.due("45 TODAY", x.count(1), 16);
+        c.due("12 a FAULT", Checks.deeds(x, "days 1;use"), -1010);
+        c.due("12 STEPS behind a FAULT", Checks.deeds(x, "days 1;pay 5 3"), 2);
+        c.due("17 PAID of account 5", x.accountIs(5, 18), 3);
+        c.due("13 of account 5", Checks.tried(x, "change 5 B", 5), 5 - 5 * 17 / 31);
+    }
+
     private static void refused(Checks c) {
         String[] refused = {"begin 0 B 2", "begin 1 A 0", "begin 1 A 32", "change 0 A", "change 1 B", "seats 0 1", "seats 0 10", "on 0", "quit 1",
             "use 1 1", "use 0 10000", "days 0", "days 401", "favour 0 3101", "favour 0 0", "pay 0 0", "pay 1 1", "remind 0", "move 0 1",
@@ -114,6 +126,18 @@ public final class DeedsTest {
         c.due("13 ended then", Checks.tried(x, "quit 0", 0), 6);
         // MOVE: 4 of 31 days of two SEATS that are PAUSED, by the SPAN from December 5th on; TURN is refused.
         c.due("13 pay, seats, stop, move, turn", Checks.tried(x, "pay 0 5;seats 0 2;stop 0;move 0 5;turn 0", 0), 6 + 620 - 620 * 27 / 31);
+        x.keep();
+        SlicedBills y = Checks.with(BOOK);
+        y.begin(3, 1, 1);
+        y.begin(0, 0, 1);
+        y.days(5);
+        y.change(0, 1);
+        y.turn(3);
+        y.pay(0, 50);
+        // What is below 0 covers all of DAY 0, so that nothing is late.
+        c.due("13 remind is refused", Checks.tried(y, "days 10;remind 0;turn 1", 0), 500);
+        c.due("13 turn of one that is turned round", Checks.tried(y, "pay 0 1;turn 3;days 26", 0), y.accountIs(0, 8));
+        c.due("13 remind of the other", Checks.tried(y, "days 10;remind 3", 3), 6200 + 310);
         c.due("13 nothing stays, ENTRIES", x.count(0), 1);
         c.due("13 nothing stays, TODAY", x.count(1), 0);
         int[] due = {0, 1, 0, 0, 31, 31, 3100, 3, 3100, 0, 0, 1, 3100, 0, 0, 0, 0, 0, 0, 1};

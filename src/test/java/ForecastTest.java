@@ -58,6 +58,18 @@ public final class ForecastTest {
         for (int[] n : none) c.due("39 best(" + n[0] + ", " + n[1] + ", " + n[2] + ")", x.best(n[0], n[1], n[2]), NO);
         x.giveUp(0);
         c.due("39 ended", x.best(0, 1, 0), NO);
+        SlicedBills u = Checks.with("price A 30;price B 10;price C 20");
+        u.begin(0, 0, 1);
+        c.due("39 the lowest of the like ones", u.best(0, 0, 2), 3);
+        SlicedBills v = Checks.with("price A 30;price B 10;price C 20;price D 30;price E 30;price F 30");
+        v.begin(0, 0, 1);
+        c.due("39 PLAN B", v.best(0, 0, 2), 1);
+        // By 31 days 1 cent is 0 till the last day: the first day has the 1, all the others too.
+        SlicedBills w = Checks.with("price A 1;price B 0;price C 2");
+        w.days(29);
+        w.begin(0, 0, 1);
+        c.due("39 two days are left", w.best(0, 2, 0), 29);
+        c.due("39 how much", w.best(0, 2, 1), w.quote(0, 2, 29));
         SlicedBills y = Checks.with("price A 10;price B 20;price C 30;price D 40;price E 50;price F 60");
         y.begin(0, 3, 1);
         c.due("39 the least", y.best(0, 5, 2), 0);
@@ -80,6 +92,7 @@ public final class ForecastTest {
         x.use(0, 5);
         x.pay(0, 1000);
         c.due("40 ahead(0, 0)", x.ahead(0, 0), 2790);
+        c.due("40 ahead(0, 1)", x.ahead(0, 1), 2790);
         c.due("40 ahead(0, 30)", x.ahead(0, 30), 2790);
         c.due("40 ahead(0, 31)", x.ahead(0, 31), 2790 + 10 + 3100);
         c.due("40 ahead(0, 60)", x.ahead(0, 60), 2790 + 10 + 6200);
@@ -89,6 +102,10 @@ public final class ForecastTest {
         c.due("40 nothing stays, UNITS", x.accountIs(0, 7), 5);
         for (int n : new int[] {-1, 401, MAX, MIN}) c.due("40 ahead(0, " + n + ")", x.ahead(0, n), NO);
         for (int a : new int[] {-1, 1, 6, MAX, MIN}) c.due("40 ahead(" + a + ", 1)", x.ahead(a, 1), NO);
+        SlicedBills z = begun();
+        z.days(30);
+        c.due("40 ahead(0, 0) on the last day", z.ahead(0, 0), 2790);
+        c.due("40 ahead(0, 1) on the last day", z.ahead(0, 1), 2790 + 3100);
         x.giveUp(0);
         c.due("40 of an ended one", x.ahead(0, 400), 10);
         // Room for one more PERIOD alone: the next days do not pass.
@@ -97,6 +114,8 @@ public final class ForecastTest {
         for (int i = 0; i < 198; i++) y.change(0, 1 - i % 2);
         c.due("45 ENTRIES", y.count(0), 397);
         c.due("40 till there would be 401 ENTRIES", y.ahead(0, 400), 6200);
+        c.due("41 not behind the days that pass", y.when(0, 6201), -2);
+        c.due("41 by these", y.when(0, 6200), 31);
     }
 
     private static void when(Checks c) {

@@ -6,6 +6,7 @@ public final class KeptTest {
     public static void main(String[] args) {
         Checks c = new Checks();
         keeps(c);
+        keepsEntries(c);
         keepsTheBook(c);
         checks(c);
         counts(c);
@@ -50,6 +51,28 @@ public final class KeptTest {
         c.due("43 as it was KEPT last", x.count(0), 3);
         c.due("43 as it was KEPT last", x.entry(2, 6), 1);
         c.due("43 as it was KEPT last", x.entry(1, 7), -3100 + 3100 * 3 / 31);
+    }
+
+    private static void keepsEntries(Checks c) {
+        SlicedBills x = Checks.with("price A 3100;price B 6200;rest A 2;fee 5");
+        x.begin(4, 0, 1);
+        x.begin(2, 1, 7);
+        x.use(4, 3);
+        x.days(16);
+        x.remind(4);
+        x.change(2, 0);
+        x.favour(4, 9);
+        x.turn(0);
+        int size = x.keep();
+        int[][] is = new int[size][10];
+        for (int i = 0; i < size; i++) for (int w = 0; w < 10; w++) is[i][w] = x.entry(i, w);
+        x.turn(1);
+        x.turn(3);
+        x.days(40);
+        x.undo();
+        c.due("43 ENTRIES", x.count(0), size);
+        for (int i = 0; i < size; i++) for (int w = 0; w < 10; w++) c.due("43 entry(" + i + ", " + w + ")", x.entry(i, w), is[i][w]);
+        c.due("43 not turned round any more", x.turn(1), size);
     }
 
     private static void keepsTheBook(Checks c) {

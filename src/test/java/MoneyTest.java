@@ -55,6 +55,15 @@ public final class MoneyTest {
         for (int[] n : new int[][] {{0, -1}, {0, 101}, {2, 19}, {6, 19}, {-1, 19}, {MAX, 19}, {0, MIN}}) {
             c.due("8 taxes(" + n[0] + ", " + n[1] + ")", x.taxes(n[0], n[1]), NO);
         }
+        // All of one RATE from the first ENTRY on: of 33, -33, 66 the sums are 33, 0, 66.
+        SlicedBills z = Checks.with("price A 33;price B 66;tax 0 10");
+        z.begin(0, 0, 1);
+        z.change(0, 1);
+        int[] due = {3, -3, 6};
+        for (int i = 0; i < 3; i++) c.due("7 TAX of ENTRY " + i, z.tax(i), due[i]);
+        z.days(31);
+        z.days(29);
+        c.due("7 TAX of 66 behind 132", z.tax(6), 19 - 13);
         SlicedBills y = Checks.with("price A 99999;tax 0 100");
         y.begin(0, 0, 1);
         for (int s = 2; s < 60; s++) y.seats(0, 1 + s % 9);
@@ -182,6 +191,20 @@ public final class MoneyTest {
         c.due("20 of one of 0 cents", x.open(2), 0);
         c.due("20 of another account", x.open(0), 3100);
         c.due("21 of another account", x.owes(1, 2), 9300);
+        SlicedBills y = Checks.with("price A 1;price B 2");
+        y.begin(0, 0, 1);
+        y.days(31);
+        y.days(29);
+        c.due("20 one of 1 cent", y.open(0), 1);
+        y.pay(0, 1);
+        int[] one = {2, 2, 2, 0};
+        for (int w = 0; w < 4; w++) c.due("21 ENTRIES of 1 cent, owes(0, " + w + ")", y.owes(0, w), one[w]);
+        c.due("20 one of 1 cent, covered", y.open(0), 0);
+        c.due("20 one of 1 cent behind it", y.open(2), 1);
+        c.due("19 of 1 cent", y.late(0, 60), 1);
+        c.due("19 of 1 cent, two of them", y.late(0, 75), 2);
+        y.pay(0, 1);
+        c.due("20 covered by 1 cent each", y.open(4), 1);
         x.favour(0, 70);
         c.due("21 a favour covers too", x.owes(0, 3), 120);
         c.due("20 of a favour", x.open(x.count(0) - 1), 0);
@@ -307,6 +330,13 @@ public final class MoneyTest {
         line(c, x, last + 2, "P0 2026-03-26 to 2026-03-31 F charge 1451.60");
         line(c, x, last + 3, "P26 2026-03-26 to 2026-04-01 A credit -6.00");
         line(c, x, last + 6, "P26 2026-03-26 to 2026-04-01 F charge 0.00");
+        int[] cents = {1, 9, 10, 99, 100, 999, 1000, 1001, 9999, 10000, 99999};
+        String[] euros = {"0.01", "0.09", "0.10", "0.99", "1.00", "9.99", "10.00", "10.01", "99.99", "100.00", "999.99"};
+        for (int i = 0; i < cents.length; i++) {
+            SlicedBills y = Checks.with("price E " + cents[i]);
+            y.begin(5, 4, 1);
+            line(c, y, 0, "P0 2024-01-01 to 2024-02-01 E charge " + euros[i]);
+        }
         for (int i : new int[] {-1, x.count(0), MAX, MIN}) {
             c.due("36 line(" + i + ", 0)", x.line(i, 0), -1);
             c.due("36 NONE ahead of -9", x.line(i, -5), -1);
@@ -350,6 +380,14 @@ public final class MoneyTest {
         x.pay(0, 999999);
         c.due("18 LATE is 0 ahead of 400 ENTRIES", x.remind(0), -2);
         c.due("24 no such ENTRY ahead", x.turn(400), -1);
+        SlicedBills z = Checks.with("price A 3100;price B 6200;fee 5");
+        z.begin(0, 0, 1);
+        for (int i = 0; i < 199; i++) z.change(0, 1 - i % 2);
+        z.keep();
+        c.due("16 the 400th ENTRY", z.favour(0, 1), 6199);
+        z.undo();
+        z.days(15);
+        c.due("18 the 400th ENTRY", z.remind(0), 310);
         SlicedBills y = Checks.with("price A 3100;price B 6200;fee 5");
         y.begin(0, 0, 1);
         for (int i = 0; i < 199; i++) y.change(0, 1 - i % 2);
