@@ -77,7 +77,7 @@ public final class BookTest {
         String twenty = Checks.times(20, "fee 1");
         Object[][] all = {
             {"prize A 1", -1000}, {"feez 1", -1000}, {"taxz 1", -1000}, {"Price A 1", -1000}, {"pric", -1000}, {"pricee A 1", -1000}, {" price A 1", -1000}, {";", -1000},
-            {"\u00ff", -1000}, {"price", -1005}, {"price;", -1005}, {"price  A 1", -1006}, {"price a 1", -1006}, {"price G 1", -1006},
+            {"\u00ff", -1000}, {"price", -1005}, {"price;", -1005}, {"priceA 1", -1005}, {"price A1", -1007}, {"less 1;1", -1006}, {"fee1", -1003}, {"modeA whole", -1004}, {"mode Awhole", -1006}, {"price  A 1", -1006}, {"price a 1", -1006}, {"price G 1", -1006},
             {"price @ 1", -1006}, {"price ", -1006}, {"price A", -1007}, {"price AB 1", -1007}, {"price A ", -1008}, {"price A x", -1008},
             {"price A -1", -1008}, {"price A 1 ", -1009}, {"price A 1x", -1009}, {"price A 1;", -1010}, {"price A 1;;", -1010},
             {"price A 123456", -2013}, {"price A 000000", -2013}, {"price A 99999", 1}, {"free A 123456", -2012}, {"free A 10000", -3007},
@@ -154,6 +154,8 @@ public final class BookTest {
         SlicedBills x = Checks.with("price A 500;price B 100;rest B 5;price C 100;rest C 5;price D 300;rest D 1;price E 9999;price F 501");
         int[][] due = {{0, 1}, {49, 1}, {50, 1}, {51, 3}, {199, 3}, {200, 0}, {9999, 0}, {10000, -1}, {-1, -1}};
         for (int[] d : due) c.due("29 cheapest(" + d[0] + ")", x.cheapest(d[0]), d[1]);
+        SlicedBills y = Checks.with("tier A 5 9;tier A 7 1;rest A 2");
+        c.due("27 behind the last TIER", y.usage(0, 10), 45 + 2 + 6);
         c.due("29 cheapest of an empty BOOK", new SlicedBills().cheapest(7), 0);
     }
 }

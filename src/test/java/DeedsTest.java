@@ -16,7 +16,7 @@ public final class DeedsTest {
 
     private static void faults(Checks c) {
         String all = Checks.times(24, "on 0");
-        Object[][] texts = {{"begun 0", -1000}, {"Begin 0", -1000}, {"", -1}, {"begin", -1005}, {"begin 6 A 1", -3006}, {"begin 9 A 1", -3006},
+        Object[][] texts = {{"begun 0", -1000}, {"Begin 0", -1000}, {"", -1}, {"begin", -1005}, {"begin0 A 1", -1005}, {"begin 0A 1", -1007}, {"begin 0 A1", -1009}, {"days1", -1004}, {"begin 6 A 1", -3006}, {"begin 9 A 1", -3006},
             {"begin x", -1006}, {"begin A", -1006}, {"begin  0", -1006}, {"begin 0", -1007}, {"begin 0 G 1", -1008}, {"begin 0 a 1", -1008},
             {"begin 0 A", -1009}, {"begin 0 A x", -1010}, {"begin 0 A 1 ", -1011}, {"begin 0 A 123456", -2015}, {"change 0 B 1", -1010},
             {"change 7 B", -3007}, {"seats 0", -1007}, {"seats 0 A", -1008}, {"stop 0 1", -1006}, {"stop 6", -3005}, {"on 0;", -1005},

@@ -61,6 +61,7 @@ public final class MoneyTest {
         z.change(0, 1);
         int[] due = {3, -3, 6};
         for (int i = 0; i < 3; i++) c.due("7 TAX of ENTRY " + i, z.tax(i), due[i]);
+        c.due("8 TAXES of them", z.taxes(0, 10), 6);
         z.days(31);
         z.days(29);
         c.due("7 TAX of 66 behind 132", z.tax(6), 19 - 13);
