@@ -1542,6 +1542,24 @@ public final class SlicedBills {
             return sign - 'A';
         }
 
+        // An X is one sign and no NUMBER, so a digit behind it is left to whatever is due there.
+        int accountDigit() {
+            int sign = byteAt(place);
+            if (fault != 0) {
+                return 0;
+            }
+            if (sign < '0' || sign > '9') {
+                mark(1, place);
+                return 0;
+            }
+            if (sign - '0' >= ACCOUNTS) {
+                mark(3, place);
+                return 0;
+            }
+            place++;
+            return sign - '0';
+        }
+
         int number(int low, int high) {
             if (fault != 0) {
                 return low;
@@ -1744,7 +1762,7 @@ public final class SlicedBills {
             words[i] = word;
             if ((FOLLOWS[word] & 1) != 0) {
                 reader.blank();
-                accounts[i] = reader.number(0, ACCOUNTS - 1);
+                accounts[i] = reader.accountDigit();
             }
             if ((FOLLOWS[word] & 2) != 0) {
                 reader.blank();

@@ -6,6 +6,7 @@ public final class DeedsTest {
     public static void main(String[] args) {
         Checks c = new Checks();
         faults(c);
+        digits(c);
         each(c);
         zeros(c);
         refused(c);
@@ -33,6 +34,35 @@ public final class DeedsTest {
         c.due("12 24 STEPS, the first refused", Checks.deeds(x, all), 0);
         c.due("12 a FAULT at the end", Checks.deeds(x, "begin 0 A 1;days 5;days"), -1023);
         c.due("12 nothing is done", x.count(0) + x.count(1), 0);
+    }
+
+    /** An X is one digit alone: what stands behind it is looked at where a blank, a ; or the end is due. */
+    private static void digits(Checks c) {
+        String[] steps = {"begin X A 1", "change X B", "seats X 2", "stop X", "on X", "quit X", "use X 1", "favour X 1", "pay X 1",
+            "remind X", "move X 2"};
+        for (String step : steps) {
+            int at = step.indexOf('X');
+            for (int digit = 0; digit <= 9; digit++) {
+                SlicedBills x = Checks.with(BOOK);
+                String one = step.replace("X", "" + digit);
+                int due = digit > 5 ? -3000 - at : step.startsWith("begin") ? 1 : 0;
+                c.due("12 " + one, Checks.deeds(x, one), due);
+                for (String more : new String[] {"0", "5", "9", "12345", "a", "A", "/", ":", "\u0000", "\u00ff"}) {
+                    String text = "days 7;" + step.replace("X", digit + more);
+                    int fault = digit > 5 ? -3000 - at - 7 : -1000 - at - 8;
+                    c.due("12 " + text, Checks.deeds(x, text), fault);
+                    c.due("13 tried of " + text, Checks.tried(x, text, 0), fault);
+                }
+                c.due("12 nothing is done of " + step, x.count(1), 0);
+            }
+        }
+        Object[][] ends = {{"begin 12 A 1", -1007}, {"begin 05 A 1", -1007}, {"begin 00 A 1", -1007}, {"begin 123456 A 1", -1007},
+            {"begin 67 A 1", -3006}, {"begin 999999 A 1", -3006}, {"on 0;on 0;on 0;on 09", -1019}, {"on 0;on 0;on 0;on 9", -3018},
+            {"on 00;on 0", -1004}, {"on 0;on 6x", -3008}, {"stop 66;", -3005}, {"quit 10", -1006}, {"begin 0 A 00001", 1},
+            {"begin 0 A 000001", -2015}};
+        for (Object[] t : ends) {
+            c.due("12 deeds of " + t[0], Checks.deeds(Checks.with(BOOK), (String) t[0]), (Integer) t[1]);
+        }
     }
 
     private static void each(Checks c) {

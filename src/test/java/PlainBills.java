@@ -303,9 +303,9 @@ public final class PlainBills {
 
     private static final String[] CLAUSES = {"price P 0:99999", "free P 0:9999", "tier P 1:9999 0:99", "rest P 0:99",
         "mode P adding|whole", "pause P 0:100", "less 0:100 0:99", "fee 0:20", "bulk P 2:9 0:100", "tax 0:3652 0:100"};
-    private static final String[] STEPS = {"begin 0:5 P 0:99999", "change 0:5 P", "seats 0:5 0:99999", "stop 0:5", "on 0:5",
-        "quit 0:5", "use 0:5 0:99999", "days 0:99999", "favour 0:5 0:99999", "pay 0:5 0:99999", "remind 0:5",
-        "move 0:5 0:99999", "turn 0:99999"};
+    private static final String[] STEPS = {"begin X P 0:99999", "change X P", "seats X 0:99999", "stop X", "on X",
+        "quit X", "use X 0:99999", "days 0:99999", "favour X 0:99999", "pay X 0:99999", "remind X",
+        "move X 0:99999", "turn 0:99999"};
 
     private interface Watch { void seen(List<Object> soFar, int place); }
 
@@ -335,6 +335,12 @@ public final class PlainBills {
                 if (parts[k].equals("P")) {
                     if (place >= text.length() || "ABCDEF".indexOf(text.charAt(place)) < 0) throw new Fault(1, place);
                     line.add(text.charAt(place++) - 'A');
+                } else if (parts[k].equals("X")) {
+                    int digit = place < text.length() ? "0123456789".indexOf(text.charAt(place)) : -1;
+                    if (digit < 0) throw new Fault(1, place);
+                    if (digit > 5) throw new Fault(3, place);
+                    line.add(digit);
+                    place++;
                 } else if (parts[k].contains("|")) {
                     String w = wordAt(text, place);
                     if (w.isEmpty() || !List.of(parts[k].split("\\|")).contains(w)) throw new Fault(1, place);
