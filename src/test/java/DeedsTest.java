@@ -59,7 +59,8 @@ public final class DeedsTest {
         Object[][] ends = {{"begin 12 A 1", -1007}, {"begin 05 A 1", -1007}, {"begin 00 A 1", -1007}, {"begin 123456 A 1", -1007},
             {"begin 67 A 1", -3006}, {"begin 999999 A 1", -3006}, {"on 0;on 0;on 0;on 09", -1019}, {"on 0;on 0;on 0;on 9", -3018},
             {"on 00;on 0", -1004}, {"on 0;on 6x", -3008}, {"stop 66;", -3005}, {"quit 10", -1006}, {"begin 0 A 00001", 1},
-            {"begin 0 A 000001", -2015}};
+            {"begin 0 A 000001", -2015}, {"on /", -1003}, {"on :", -1003}, {"on \u0000", -1003}, {"on \u00ff", -1003},
+            {"on -1", -1003}, {"on ;on 0", -1003}, {"on ", -1003}, {"on 0;move ", -1010}, {"turn 7", 0}, {"days 10", 1}};
         for (Object[] t : ends) {
             c.due("12 deeds of " + t[0], Checks.deeds(Checks.with(BOOK), (String) t[0]), (Integer) t[1]);
         }
